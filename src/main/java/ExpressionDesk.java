@@ -362,6 +362,7 @@ public final class ExpressionDesk {
 
     /** The values, in chains by what they hold, so that looking one up does not go through all. */
     private static final class Store {
+        /** A power of 2, so that a mask picks a chain. */
         private static final int CHAINS = 256;
 
         private final ArrayList<Value> kept = new ArrayList<Value>();
@@ -404,8 +405,8 @@ public final class ExpressionDesk {
         private int keep(int kind, int extra, long amount, int scale, Row row) {
             int chain = chainOf(kind, extra, amount, scale, row);
             int number = heads[chain];
-            for (int steps = 0; number > 0 && steps < MOST_VALUES; steps++) {
-                Value v = at(number);
+            for (int steps = 0; number >= 1 && number <= kept.size() && steps < MOST_VALUES; steps++) {
+                Value v = kept.get(number - 1);
                 if (v.kind == kind && v.extra == extra && v.amount == amount && v.scale == scale
                         && row.holds(v.bytes)) {
                     return number;
@@ -426,7 +427,7 @@ public final class ExpressionDesk {
             for (int i = 0; i < row.length && i < MOST_BYTES; i++) {
                 mix = mix * 31L + row.bytes[i];
             }
-            return (int) Math.floorMod(mix ^ mix >>> 21 ^ mix >>> 42, (long) CHAINS);
+            return (int) (mix ^ mix >>> 21 ^ mix >>> 42) & CHAINS - 1;
         }
     }
 
@@ -519,11 +520,13 @@ public final class ExpressionDesk {
                 low = low % BILLION;
             }
             boolean up = rest >= by - rest;
-            boolean carries = up && low == BILLION - 1;
-            settle(amount < 0 != other < 0, carries ? high + 1 : high, carries ? 0 : up ? low + 1 : low);
+            settle(amount < 0 != other < 0, high, up ? low + 1 : low);
         }
 
-        /** The size is judged with the least scale, since that is what a value is told with. */
+        /**
+         * The size is judged with the least scale, since that is what a value is told with.
+         * Rounding may have made low a whole BILLION; without its zeros that is the 1 that high lacks.
+         */
         private void settle(boolean below, long high, long low) {
             int digits = MOST_SCALE;
             long rest = low;

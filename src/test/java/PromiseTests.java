@@ -665,6 +665,23 @@ public final class PromiseTests {
         due("16: type 0", on(x, 37, text(x, "", 7, 0)), x.named(2, 0));
     }
 
+    private static void stringsOfNumbers() {
+        long n = 1;
+        for (int digits = 1; digits <= 18; digits++) {
+            ExpressionDesk x = new ExpressionDesk();
+            due("16: STRING of " + n, on(x, 35, x.whole(n)), plain(x, "" + n));
+            due("16: STRING of -" + n, on(x, 35, x.decimal(-n, 0)), plain(x, "-" + n + ".0"));
+            n *= 10;
+        }
+    }
+
+    private static void reckoningCarries() {
+        // 0.999999999 and nines beyond it are rounded up to 1.
+        dueReckoned(whole(MOST), '/', decimal(1000000000000L, 0), 4, 1000000, 0);
+        dueReckoned(whole(-1999999999), '/', whole(2000000000), 4, -1, 0);
+        dueReckoned(decimal(999999999, 9), '*', decimal(999999999, 9), 4, 999999998, 9);
+    }
+
     /** An object that has room for so many values more; 1 is the whole 1, and the expression adds 49 times. */
     private static ExpressionDesk nearlyFull(int room) {
         ExpressionDesk x = new ExpressionDesk();
@@ -873,6 +890,8 @@ public final class PromiseTests {
         cuttingTexts();
         seekingTexts();
         describing();
+        stringsOfNumbers();
+        reckoningCarries();
         noRoom();
         gathering();
         gatheringMany();
