@@ -22,11 +22,19 @@ final class Due {
         }
     }
 
+    /** An answer told as a value, and the very value that is made when it is asked for as it is written. */
+    static void isValue(String what, Desk d, int answer, String want) {
+        is(what, d.show(answer), want);
+        if (answer > 0) {
+            is(what + ", asked for as " + want, d.value(want), answer);
+        }
+    }
+
     /** What the written expression gives on a new object. */
     static void gives(String expression, String want) {
         Desk d = new Desk();
         d.express(expression);
-        is(expression, d.show(d.run()), want);
+        isValue(expression, d, d.run(), want);
     }
 
     static void each(String[] expressions, String want) {
@@ -39,13 +47,13 @@ final class Due {
     static void together(int sort, boolean once, String written, String want) {
         Desk d = new Desk();
         d.gatherAll(sort, once, 0, written);
-        is("sort " + sort + " of " + written + (once ? ", each once" : ""), d.show(d.together()), want);
+        isValue("sort " + sort + " of " + written + (once ? ", each once" : ""), d, d.together(), want);
     }
 
     static void joined(String between, boolean once, String written, String want) {
         Desk d = new Desk();
         d.gatherAll(6, once, d.value(between), written);
-        is("JOINED by " + between + " of " + written + (once ? ", each once" : ""), d.show(d.together()), want);
+        isValue("JOINED by " + between + " of " + written + (once ? ", each once" : ""), d, d.together(), want);
     }
 
     static void end(String test) {

@@ -76,6 +76,26 @@ public final class GatheringBoundaryTests {
         Due.is("more together", d.show(d.together()), "10");
     }
 
+    /** Promise 18: "gathered anew": nothing of what was gathered before counts. */
+    private static void nothingStaysOfBefore() {
+        String x40 = "x".repeat(40);
+        for (int sort = COUNT; sort <= JOINED; sort++) {
+            Desk d = new Desk();
+            int comma = d.value("','");
+            String[] before = {"1 2 3 0.5 -7", "'" + x40 + "' '" + x40 + "'", "ERROR", "?1"};
+            for (String written : before) {
+                d.gatherAll(sort, false, comma, written);
+                d.together();
+                d.gatherAll(sort, false, comma, "2");
+                String[] want = {"1", "2", "2", "2", "2.0", "2", "'2'"};
+                Due.isValue("sort " + sort + " behind " + written, d, d.together(), want[sort]);
+                d.gatherAll(sort, false, comma, "");
+                String[] none = {"0", "0", "ERROR", "ERROR", "0", "ERROR", "''"};
+                Due.isValue("sort " + sort + " of none behind 2", d, d.together(), none[sort]);
+            }
+        }
+    }
+
     /** Promise 19: "BAD when there is none such"; 0 stands for an ERROR. */
     private static void whatCanBeAdded() {
         Desk d = new Desk();
@@ -351,6 +371,7 @@ public final class GatheringBoundaryTests {
         thereAreSorts0To6();
         whatStandsBetween();
         whatWasGatheredStays();
+        nothingStaysOfBefore();
         whatCanBeAdded();
         eachOnlyOnce();
         thereAreAtMost500();

@@ -374,6 +374,18 @@ public final class OperationBoundaryTests {
         Due.is("test makes values, too", d.values(), 9);
     }
 
+    /** Promise 14: "no words again": nothing of a longer expression stays for a shorter one. */
+    private static void shorterExpressions() {
+        Desk d = new Desk();
+        String[] written = {times("7", 21) + "#24/20", "1 2 #13", "ERROR #23/1", "1", "ERROR ERROR #23/2", "#29/0",
+            "2 #24/0", "2"};
+        String[] want = {"true", "3", "ERROR", "1", "ERROR", "''", "false", "2"};
+        for (int i = 0; i < written.length; i++) {
+            d.express(written[i]);
+            Due.isValue(written[i] + " behind longer ones", d, d.run(), want[i]);
+        }
+    }
+
     private static void dueRoom(String expression, int needed, String want) {
         Desk d = Desk.withRoom(needed);
         d.express(expression);
@@ -459,6 +471,7 @@ public final class OperationBoundaryTests {
         theFirstThatIsNoError();
         within();
         whatRunsMake();
+        shorterExpressions();
         roomForRuns();
         badBeforeFull();
         tests();

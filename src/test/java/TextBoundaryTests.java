@@ -257,6 +257,20 @@ public final class TextBoundaryTests {
         }
     }
 
+    /** "More than 64 bytes: ERROR", and what comes behind a long or refused text is as it is on a new object. */
+    private static void shorterTexts() {
+        String x64 = "x".repeat(64);
+        String[] written = {"'" + x64 + "' 'y' #29/2", "'a' 'b' #29/2", "'" + x64 + "' #28", "'A' #28", "'ab' 1 1 #26",
+            "'" + x64 + "' 'y' #29/2", "5 #35", "'" + x64 + "' #35", "'c'@7 #36", "'ab' 'z' #33", "1 #36", "'ab' 'a' #34"};
+        String[] want = {"ERROR", "'ab'", "'" + x64 + "'", "'a'", "'a'", "ERROR", "'5'", "'" + x64 + "'", "'7'", "''",
+            "''", "'b'"};
+        Desk d = new Desk();
+        for (int i = 0; i < written.length; i++) {
+            d.express(written[i]);
+            Due.isValue(written[i] + " behind others", d, d.run(), want[i]);
+        }
+    }
+
     public static void main(String[] args) {
         howManyBytes();
         partsOfTexts();
@@ -267,6 +281,7 @@ public final class TextBoundaryTests {
         kindsOfWhatIsSought();
         tagsAndTypes();
         kinds();
+        shorterTexts();
         Due.end("TextBoundaryTests");
     }
 }

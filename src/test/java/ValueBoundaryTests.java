@@ -38,6 +38,19 @@ public final class ValueBoundaryTests {
         Due.is("values kept once each", d.values(), different.length);
     }
 
+    /** The same of texts that differ in one byte alone, at each place. */
+    private static void textsThatDifferInOneByte() {
+        for (int place = 0; place < 8; place++) {
+            Desk d = new Desk();
+            for (int round = 0; round < 2; round++) {
+                for (int b = 1; b <= 127; b++) {
+                    String s = "x".repeat(place) + (char) b + "x".repeat(7 - place);
+                    Due.is("byte " + b + " at " + place, d.text(s, 5, 0), b);
+                }
+            }
+        }
+    }
+
     /** "Numbered from 1". */
     private static void valuesAreNumberedFrom1() {
         Desk d = new Desk();
@@ -327,6 +340,43 @@ public final class ValueBoundaryTests {
         Due.is("after a text that was there", d.type('z', 1), 1);
     }
 
+    /** Tape, expression, variables and what is gathered are changed by their own calls alone. */
+    private static void eachCallChangesItsOwn() {
+        Desk d = new Desk();
+        int ab = d.value("'AB'");
+        int comma = d.value("','");
+        d.bind(3, ab);
+        d.express("#1/3 #28");
+        d.gather(6, false, comma);
+        d.add(ab);
+        d.add(ab);
+        d.typeAll("tape");
+        Due.is("run", d.show(d.run()), "'ab'");
+        Due.is("together", d.show(d.together()), "'AB,AB'");
+        Due.is("test", d.test(), 1);
+        d.whole(5);
+        d.whole(Long.MAX_VALUE);
+        d.decimal(5, 1);
+        d.truth(true);
+        d.named(1, 5);
+        d.named(9, 5);
+        d.bind(4, ab);
+        d.gather(9, false, 0);
+        d.add(-1);
+        d.word(99, 0);
+        Due.is("the tape stays", d.type('s', 1), 5);
+        Due.is("the tape as a text", d.show(d.text(5, 0)), "'tapes'");
+        Due.is("the expression stays", d.show(d.run()), "'ab'");
+        Due.is("what was gathered stays", d.show(d.together()), "'AB,AB'");
+        Due.is("two words", d.begin(), 2);
+        Due.is("what was gathered stays after begin", d.add(ab), 3);
+        d.gather(0, false, 0);
+        d.word(1, 3);
+        Due.is("the variable stays after begin and gather", d.run(), ab);
+        d.text("xy", 6, 1);
+        Due.is("the expression stays after text", d.run(), ab);
+    }
+
     /** Promise 8: "BAD when there is none such, or another what", and the zeros for others. */
     private static void tellingHas4Sides() {
         String[] all = {"?12", ":34", "56", "-7.89", "'abc'", "'de'@7", "'f'^8", "true", "false"};
@@ -479,6 +529,7 @@ public final class ValueBoundaryTests {
         the512thCallAnswers();
         theConstants();
         valuesAreKeptOnceEach();
+        textsThatDifferInOneByte();
         valuesAreNumberedFrom1();
         thereAreAtMost2000Values();
         allOf2000Values();
@@ -494,6 +545,7 @@ public final class ValueBoundaryTests {
         textsHaveBytes1To127();
         textsHave0To64Bytes();
         theTapeIsEmptyAfterText();
+        eachCallChangesItsOwn();
         tellingHas4Sides();
         bytesOfTextsAlone();
         valuesAreCounted();
